@@ -35,6 +35,13 @@ final class DustTest {
         SunRows one = fieldOf(new int[] {3, 5, 3}, new int[] {10, 10, 10});
         planIs(one, 1, 0, 7, 80);
         planIs(one, 1, 25, 2, 15);
+        planIs(fieldOf(new int[] {0, 9, 9}, new int[] {10, 10, 10}), 1, 0, 6, 160);
+        // The middle row gains just 1, or just 0, by itself.
+        SunRows middle = fieldOf(new int[] {9, 1, 9}, new int[] {10, 11, 10});
+        planIs(middle, 1, 10, 7, 131);
+        planIs(middle, 1, 11, 5, 128);
+        Due.is("a plan of other days", middle.plan(3, 11), 7);
+        Due.is("the worth without its plan", middle.worth(1, 10), 131);
         Due.is("nothing is washed by a plan", one.about(1, 4), 5);
         SunRows most = new SunRows();
         for (int row = 0; row < 10; row++) {
@@ -80,6 +87,8 @@ final class DustTest {
         Due.is("row 3 isn't of the set", x.about(3, 4), 11);
         Due.is("all", x.wash(15), 1);
         Due.is("again", x.wash(15), 0);
+        x.dust(3, 1);
+        Due.is("1 is some, too", x.wash(8), 1);
         Due.is("no rows, none washed", new SunRows().wash(0), 0);
         Due.is("no rows, one told", new SunRows().wash(1), Due.BEYOND);
     }

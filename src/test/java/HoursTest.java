@@ -118,7 +118,7 @@ final class HoursTest {
         x.row(0, 0, 0, 10, 0);
         x.row(2, 5000, 0, 10, 0);
         x.row(1, 10000, 0, 10, 5);
-        int[] suns = {1000, -1000, 0, 1000, 0, -1000, 0, 1000};
+        int[] suns = {1000, -1000, 0, 1000, 0, -1000, 1000, 1000};
         for (int hour = 0; hour < suns.length; hour++) {
             x.sun(hour, suns[hour], hour == 6 ? 0 : 1000);
             x.wind(hour, hour == 4 ? 50 : 0);

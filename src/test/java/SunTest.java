@@ -7,7 +7,10 @@ final class SunTest {
         promise11Back();
         promise11BackAmongStuckRows();
         promise12Breadth();
+        promise12BreadthAtAllSteps();
         promise13Shade();
+        promise13ShadeOfManyRows();
+        promise13ShadeUnderASunNearlyAbove();
         promise13ShadeOfTurnedRows();
         promise14Dark();
         Due.end();
@@ -161,6 +164,26 @@ final class SunTest {
         Due.is("row -1", x.breadth(-1, 8), Due.BEYOND);
     }
 
+    private static void promise12BreadthAtAllSteps() {
+        int[][] turns = {
+            {10000, 0}, {9962, 872}, {9848, 1736}, {9659, 2588}, {9397, 3420}, {9063, 4226},
+            {8660, 5000}, {8192, 5736}, {7660, 6428}, {7071, 7071}, {6428, 7660}, {5736, 8192},
+            {5000, 8660}
+        };
+        SunRows x = new SunRows();
+        x.row(0, 0, 0, 10, 0);
+        x.sun(0, 0, 1);
+        x.sun(1, 1000, 1);
+        for (int step = 0; step <= 12; step++) {
+            x.turn(0, step);
+            Due.is("COSINE of " + step, x.breadth(0, 0), 20L * turns[step][0]);
+            Due.is("SINE of " + step, x.breadth(0, 1), 20L * (turns[step][0] - 1000 * turns[step][1]));
+            x.turn(0, -step);
+            Due.is("COSINE of -" + step, x.breadth(0, 0), 20L * turns[step][0]);
+            Due.is("SINE of -" + step, x.breadth(0, 1), 20L * (turns[step][0] + 1000 * turns[step][1]));
+        }
+    }
+
     private static void promise13Shade() {
         SunRows x = new SunRows();
         x.sun(1, 1000, 500);
@@ -192,6 +215,42 @@ final class SunTest {
         Due.is("hour -1", x.shade(0, -1), Due.BEYOND);
         x.turn(0, 12);
         Due.is("not LIT", x.shade(0, 1), Due.KIND);
+    }
+
+    private static void promise13ShadeOfManyRows() {
+        SunRows x = new SunRows();
+        x.sun(1, 1000, 500);
+        x.row(0, 0, 0, 100, 0);
+        x.row(0, 40, 0, 10, 0);
+        x.row(0, 41, 20, 10, 0);
+        x.row(0, 42, 40, 10, 0);
+        // In units of 10000000: row 0 from -50 to 50; shaded 35 .. 45, -4 .. 6, -43 .. -33.
+        Due.is("rows behind shade from lower on", x.shade(0, 1), 300000000L);
+        Due.is("one part in each group", x.dark(0, 1), 7);
+        x.row(0, 43, 5, 20, 0);
+        Due.is("23 .. 43 overlaps 35 .. 45", x.shade(0, 1), 420000000L);
+        x.row(0, 44, 5, 10, 0);
+        Due.is("29 .. 39 is within these", x.shade(0, 1), 420000000L);
+        for (int row = 6; row < 10; row++) {
+            Due.is("rows up to the tenth", x.row(0, 39 + row, 5, 10, 0), row);
+        }
+        // They lie at 35 .. 38, 5 to each side: up to 43 at most.
+        Due.is("ten rows", x.shade(0, 1), 420000000L);
+        x.drop();
+        x.row(0, 9000, 449, 400, 0);
+        Due.is("one that is far off", x.shade(0, 1), 420000000L);
+    }
+
+    private static void promise13ShadeUnderASunNearlyAbove() {
+        SunRows x = new SunRows();
+        x.row(0, 0, 0, 100, 0);
+        x.row(0, 1, 0, 100, 0);
+        x.sun(1, 1, 500);
+        x.sun(2, -1, 500);
+        Due.is("x 1, row 0", x.shade(0, 1), 990000000L);
+        Due.is("x 1, row 1", x.shade(1, 1), 0);
+        Due.is("x -1, row 0", x.shade(0, 2), 0);
+        Due.is("x -1, row 1", x.shade(1, 2), 990000000L);
     }
 
     private static void promise13ShadeOfTurnedRows() {
