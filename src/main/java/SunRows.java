@@ -972,6 +972,7 @@ public final class SunRows {
             }
         }
 
+        // The numbers themselves stay, as suns() and check() still read those that they took.
         void clear() {
             size = 0;
         }

@@ -5,8 +5,12 @@ import java.lang.reflect.Method;
 import java.lang.reflect.Modifier;
 import java.nio.file.Files;
 import java.nio.file.Path;
+import java.util.ArrayDeque;
+import java.util.Deque;
 import java.util.HashSet;
+import java.util.Map;
 import java.util.Set;
+import java.util.TreeMap;
 import java.util.TreeSet;
 import java.util.regex.Matcher;
 import java.util.regex.Pattern;
@@ -23,6 +27,8 @@ final class LanguageTest {
         String code = withoutComments(Files.readString(SOURCE));
         noForbiddenWords(code);
         methodsAreShort(code);
+        callsAreFewDeep(bodiesOf(code));
+        onlyNewObjectsMakeObjects(code);
         Due.end();
     }
 
@@ -118,6 +124,52 @@ final class LanguageTest {
         };
         for (String word : forbidden) {
             Due.isTrue("the source has no " + word, !Pattern.compile(word).matcher(code).find());
+        }
+    }
+
+    /** What stands in each method, by its name; methods of the same name are taken as one. */
+    private static Map<String, String> bodiesOf(String code) {
+        Map<String, String> bodies = new TreeMap<>();
+        String first = "(?m)^( {4}| {8})(?:\\w[\\w\\[\\]]* )+(\\w+)\\([^)]*\\) \\{$";
+        Matcher head = Pattern.compile(first).matcher(code);
+        while (head.find()) {
+            int end = code.indexOf("\n" + head.group(1) + "}", head.end());
+            bodies.merge(head.group(2), code.substring(head.end(), end), String::concat);
+        }
+        Due.isTrue("all methods are seen", bodies.size() > 60);
+        return bodies;
+    }
+
+    private static void callsAreFewDeep(Map<String, String> bodies) {
+        for (Method method : SunRows.class.getDeclaredMethods()) {
+            int deep = depthOf(method.getName(), bodies, new ArrayDeque<>());
+            Due.isTrue(method + " goes " + deep + " deep, at most eight", deep <= 8);
+        }
+    }
+
+    /** A method counts as one, one of the library too. */
+    private static int depthOf(String name, Map<String, String> bodies, Deque<String> open) {
+        Due.isTrue(name + " doesn't call itself by way of " + open, !open.contains(name));
+        if (open.contains(name) || !bodies.containsKey(name)) {
+            return 1;
+        }
+        open.push(name);
+        int deepest = 0;
+        Matcher call = Pattern.compile("\\b(\\w+)\\(").matcher(bodies.get(name));
+        while (call.find()) {
+            deepest = Math.max(deepest, depthOf(call.group(1), bodies, open));
+        }
+        open.pop();
+        return 1 + deepest;
+    }
+
+    /** All calls of a run live in one room: what a field needs is made with it, and used again. */
+    private static void onlyNewObjectsMakeObjects(String code) {
+        for (String line : code.split("\n")) {
+            boolean isField = line.matches(" +(private )?final [\\w\\[\\]]+ \\w+ = new [^;]+;");
+            boolean isOfConstructor = line.strip().equals("rows[at] = new Row();");
+            Due.isTrue("no call makes an object:" + line,
+                    !line.matches(".*\\bnew\\b.*") || isField || isOfConstructor);
         }
     }
 
